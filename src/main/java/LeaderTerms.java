@@ -261,7 +261,7 @@ public final class LeaderTerms {
             return tellLong(NONE);
         }
         market.standAll(x.above, x.below);
-        market.sumGains(how, told);
+        market.addUp(true, how, told);
         return told.side(part);
     }
 
@@ -447,7 +447,7 @@ public final class LeaderTerms {
         Follower who = world.followers[f];
         market.seekBest(world.most);
         greatest.take(market.top);
-        spare.take(who);
+        spare.becomeLike(who);
         int chosen = -1;
         for (int row = 1; row < spare.rows; row++) {
             who.dropRow(row);
@@ -457,7 +457,7 @@ public final class LeaderTerms {
                 chosen = row;
                 greatest.take(market.top);
             }
-            who.take(spare);
+            who.becomeLike(spare);
         }
         market.plans[f].findAll();
         return chosen;
@@ -721,7 +721,7 @@ public final class LeaderTerms {
     // ---- images
 
     public int image() {
-        kept.take(world);
+        kept.takeAll(world);
         isKept = true;
         return 1;
     }
@@ -730,7 +730,7 @@ public final class LeaderTerms {
         if (!isKept) {
             return tell(NONE);
         }
-        world.take(kept);
+        world.takeAll(kept);
         for (int f = 0; f < world.number; f++) {
             market.plans[f].findAll();
         }
@@ -830,9 +830,10 @@ public final class LeaderTerms {
         prices.findAll(world.followers[f], world.term);
     }
 
+    // Each side of the amounts, and of the prices, has a corner: it is enough to look at those.
     private boolean isLive(Plans plans, int depth, int in) {
         int out = (1 << depth) - 1 & ~in;
-        return plans.areTightIn(in) && prices.areTightIn(out);
+        return isWithinOneOf(plans.tight, plans.number, in) && isWithinOneOf(prices.tight, prices.number, out);
     }
 
     private int liveNodes(Plans plans, int depth) {
@@ -872,7 +873,7 @@ public final class LeaderTerms {
         }
         Plans plans = market.plans[f];
         long below = plans.below[k] * world.term.below;
-        return Fraction.compare(sum, row.numbers[0], plans.net[k], below) > 0;
+        return Fraction.order(sum, row.numbers[0], plans.net[k], below) > 0;
     }
 
     private boolean answersAs(Plans plans, Row row) {
@@ -888,7 +889,7 @@ public final class LeaderTerms {
     }
 
     private boolean isGreater() {
-        return market.top.compareWith(greatest) > 0;
+        return market.top.orderTo(greatest) > 0;
     }
 
     private int fullSpots() {
@@ -910,11 +911,30 @@ public final class LeaderTerms {
         if (a == 0 || b == 0) {
             return false;
         }
-        // The quotient below would itself wrap around for these.
-        if (a == -1 && b == Long.MIN_VALUE || b == -1 && a == Long.MIN_VALUE) {
+        // Here alone the quotient wraps around with the product, and would hide it.
+        if (a == Long.MIN_VALUE && b == -1) {
             return true;
         }
         return a * b / b != a;
+    }
+
+    // A corner is the only one that is tight where it is: two with the same set are one.
+    private static boolean isOneOf(int[] sets, int number, int set) {
+        for (int k = 0; k < number && k < sets.length; k++) {
+            if (sets[k] == set) {
+                return true;
+            }
+        }
+        return false;
+    }
+
+    private static boolean isWithinOneOf(int[] sets, int number, int set) {
+        for (int k = 0; k < number && k < sets.length; k++) {
+            if ((set & ~sets[k]) == 0) {
+                return true;
+            }
+        }
+        return false;
     }
 
     /** A fraction that is written over again and again, so that calls make no objects. */
@@ -943,8 +963,8 @@ public final class LeaderTerms {
             return below > 0 ? above / below : 0;
         }
 
-        int compareWith(Fraction other) {
-            return compare(above, below, other.above, other.below);
+        int orderTo(Fraction other) {
+            return order(above, below, other.above, other.below);
         }
 
         private static long commonDivisor(long a, long b) {
@@ -959,7 +979,7 @@ public final class LeaderTerms {
         }
 
         /** a by b against c by d, quotient by quotient: the products may be no longs. */
-        static int compare(long a, long b, long c, long d) {
+        static int order(long a, long b, long c, long d) {
             long p = a;
             long q = b;
             long r = c;
@@ -1029,7 +1049,7 @@ public final class LeaderTerms {
             rows--;
         }
 
-        void take(Follower other) {
+        void becomeLike(Follower other) {
             kind = other.kind;
             m = other.m;
             goods = other.goods;
@@ -1188,7 +1208,7 @@ public final class LeaderTerms {
             for (int set = 0; set < sets; set++) {
                 if (Integer.bitCount(set) == who.goods && square.solveAmounts(who, set)) {
                     int tightSet = tightPairs();
-                    if (tightSet >= 0 && !isKnown(tightSet)) {
+                    if (tightSet >= 0 && !isOneOf(tight, number, tightSet)) {
                         insert(tightSet);
                     }
                 }
@@ -1217,16 +1237,6 @@ public final class LeaderTerms {
                 set |= square.found[g] == 0 ? 1 << who.rows + g : 0;
             }
             return set;
-        }
-
-        // A plan is the only one that is tight where it is: two with the same set are one.
-        private boolean isKnown(int tightSet) {
-            for (int k = 0; k < number; k++) {
-                if (tight[k] == tightSet) {
-                    return true;
-                }
-            }
-            return false;
         }
 
         private void insert(int tightSet) {
@@ -1270,16 +1280,6 @@ public final class LeaderTerms {
                 sum += amounts[k * GOODS + g] * who.traits[trait * GOODS + g];
             }
             return sum;
-        }
-
-        /** Whether some plan is tight in all pairs of a set: each side of what it may do has a corner. */
-        boolean areTightIn(int set) {
-            for (int k = 0; k < number; k++) {
-                if ((set & ~tight[k]) == 0) {
-                    return true;
-                }
-            }
-            return false;
         }
 
         /** Finds net and gain of all plans, above the line: below it is a plan's times the term's. */
@@ -1393,7 +1393,7 @@ public final class LeaderTerms {
         private long termBelow = 1;
         private final long[] price = new long[PRICE_CORNERS * ROWS];
         private final long[] below = new long[PRICE_CORNERS];
-        private final int[] tight = new int[PRICE_CORNERS];
+        final int[] tight = new int[PRICE_CORNERS];
         private final long[] cost = new long[PRICE_CORNERS];
 
         Prices(Square square) {
@@ -1407,7 +1407,7 @@ public final class LeaderTerms {
             for (int set = 0; set < sets; set++) {
                 if (Integer.bitCount(set) == who.goods && square.solveWeights(who, set, term)) {
                     int tightSet = tightPairs(who, set);
-                    if (tightSet >= 0 && !isKnown(tightSet)) {
+                    if (tightSet >= 0 && !isOneOf(tight, number, tightSet)) {
                         insert(who, set, tightSet);
                     }
                 }
@@ -1431,15 +1431,6 @@ public final class LeaderTerms {
                 }
             }
             return tightSet;
-        }
-
-        private boolean isKnown(int tightSet) {
-            for (int k = 0; k < number; k++) {
-                if (tight[k] == tightSet) {
-                    return true;
-                }
-            }
-            return false;
         }
 
         private void insert(Follower who, int set, int tightSet) {
@@ -1485,16 +1476,6 @@ public final class LeaderTerms {
                 long two = price[old * ROWS + r] * below[k];
                 if (one != two) {
                     return one < two;
-                }
-            }
-            return false;
-        }
-
-        /** Whether some prices are tight in all pairs of a set: each side of them has a corner. */
-        boolean areTightIn(int set) {
-            for (int k = 0; k < number; k++) {
-                if ((set & ~tight[k]) == 0) {
-                    return true;
                 }
             }
             return false;
@@ -1548,7 +1529,7 @@ public final class LeaderTerms {
             }
         }
 
-        void take(World other) {
+        void takeAll(World other) {
             number = other.number;
             most = other.most;
             rounds = other.rounds;
@@ -1556,7 +1537,7 @@ public final class LeaderTerms {
             ledger = other.ledger;
             term.take(other.term);
             for (int f = 0; f < number; f++) {
-                followers[f].take(other.followers[f]);
+                followers[f].becomeLike(other.followers[f]);
             }
         }
 
@@ -1613,36 +1594,24 @@ public final class LeaderTerms {
             }
         }
 
-        /** What the total is, or nears, where all stand. */
-        void sumGains(int way, Fraction to) {
+        /** Gains or tolls of all answers together, where all stand or close by. */
+        void addUp(boolean isOfGains, int way, Fraction to) {
             long above = 0;
             long below = 1;
             for (int f = 0; f < world.number; f++) {
                 int k = plans[f].choose(way);
                 if (k >= 0) {
-                    above = above * plans[f].below[k] + plans[f].gain[k] * below;
+                    long one = isOfGains ? plans[f].gain[k] : plans[f].toll[k];
+                    above = above * plans[f].below[k] + one * below;
                     below = below * plans[f].below[k];
                 }
             }
-            to.put(above, below * termBelow);
-        }
-
-        private void sumTolls(Fraction to) {
-            long above = 0;
-            long below = 1;
-            for (int f = 0; f < world.number; f++) {
-                int k = plans[f].choose(FROM_ABOVE);
-                if (k >= 0) {
-                    above = above * plans[f].below[k] + plans[f].toll[k] * below;
-                    below = below * plans[f].below[k];
-                }
-            }
-            to.put(above, below);
+            to.put(above, isOfGains ? below * termBelow : below);
         }
 
         int cutTotal() {
             standAll(world.term.above, world.term.below);
-            sumGains(AT, sum);
+            addUp(true, AT, sum);
             return (int) sum.cut();
         }
 
@@ -1666,16 +1635,16 @@ public final class LeaderTerms {
             } else {
                 standAll(turns.above[k - 1], turns.below[k - 1]);
             }
-            sumTolls(sum);
+            addUp(false, FROM_ABOVE, sum);
             putSum(to, from);
-            sumGains(FROM_ABOVE, sum);
+            addUp(true, FROM_ABOVE, sum);
             putSum(to, from + 2);
             if (k == turns.number) {
                 standAll(world.most, 1);
             } else {
                 standAll(turns.above[k], turns.below[k]);
             }
-            sumGains(FROM_BELOW, sum);
+            addUp(true, FROM_BELOW, sum);
             putSum(to, from + 4);
         }
 
@@ -1701,8 +1670,8 @@ public final class LeaderTerms {
                 if (way == FROM_BELOW && above == 0 || way == FROM_ABOVE && above >= most * below) {
                     continue;
                 }
-                sumGains(way, sum);
-                if (how < 0 || sum.compareWith(top) > 0) {
+                addUp(true, way, sum);
+                if (how < 0 || sum.orderTo(top) > 0) {
                     top.take(sum);
                     where.put(above, below);
                     how = way;
