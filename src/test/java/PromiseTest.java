@@ -73,6 +73,17 @@ public final class PromiseTest {
         return x;
     }
 
+    /** All four rows meet in (5, 5), and pairs of them prove it in four ways. */
+    private static LeaderTerms fourProofs() {
+        LeaderTerms x = new LeaderTerms();
+        x.follower(0, 2);
+        x.good(0, 1, 0, 15);
+        x.bind(0, ONE, 5);
+        x.bind(0, 4 * 49 + 5 * 7 + 3, 15);
+        x.bind(0, 3 * 49 + 4 * 7 + 3, 5);
+        return x;
+    }
+
     private static void sheet(LeaderTerms x, int s, int sort, long... numbers) {
         x.sheet(s, sort, numbers.length);
         for (int i = 0; i < numbers.length; i++) {
@@ -455,6 +466,7 @@ public final class PromiseTest {
         x.term(0, 1);
         x.bind(0, ONE, 10);
         due(x.opens(0, 2), 2);
+        due(fourProofs().opens(0, 2), 4);
         due(x.opens(0, 0), 3);
         due(x.opens(0, 1), 9);
     }
@@ -511,6 +523,18 @@ public final class PromiseTest {
         due(x.price(0, 1, 0), 10);
         x.term(12, 1);
         due(x.price(0, 1, 0), 0);
+        // (5, 0, 5, 0), (0, 5/2, 15/2, 0), (10, 0, 0, 5), (0, 10, 0, 15): the second is the first of them.
+        x = fourProofs();
+        due(x.price(0, 0, 0), 0);
+        due(x.price(0, 1, 0), 5);
+        due(x.price(0, 1, 1), 2);
+        due(x.price(0, 2, 0), 15);
+        due(x.price(0, 3, 0), 0);
+        // At 3 the goods leave 7 and 12.
+        x.term(3, 1);
+        due(x.price(0, 1, 0), 1);
+        due(x.price(0, 1, 1), 1);
+        due(x.price(0, 2, 0), 6);
     }
 
     private static void p21() {
@@ -661,6 +685,21 @@ public final class PromiseTest {
         due(x.best(0), 30);
         due(x.best(2), 3);
         due(new LeaderTerms().best(0), 0);
+        // What it takes costs more than it brings, up to 7/2; what is neared there from above is best.
+        x = oneGood(10);
+        x.good(0, 0, 0, 7);
+        x.good(0, 0, 1, 2);
+        x.good(0, 0, 2, -9);
+        x.most(4);
+        long[] due = {0, 1, 7, 2, 2};
+        for (int what = 0; what < 5; what++) {
+            due(x.best(what), due[what]);
+        }
+        // At MOST nothing is neared from above.
+        x.good(0, 0, 0, 8);
+        due(x.best(0), -10);
+        due(x.best(2), 4);
+        due(x.best(4), 0);
     }
 
     private static void p26() {
@@ -821,6 +860,13 @@ public final class PromiseTest {
         due(x.loose(0), BEYOND);
         due(x.loose(21), BEYOND);
         due(x.loose(MIN), BEYOND);
+        // 4310654 is 0 by 2.
+        x.term(1, 1);
+        x.most(1);
+        x.seed(1);
+        due(x.loose(1), 0);
+        due(x.termOf(0), 0);
+        x.most(20);
         // Each round brings 10: the third would be too much, and then nothing has been.
         x.good(0, 0, 1, 0);
         x.good(0, 0, 2, 1);
@@ -828,13 +874,13 @@ public final class PromiseTest {
         x.seed(5);
         x.book(0, Long.MAX_VALUE - 75);
         due(x.loose(3), OVER);
-        due(x.count(2), 2);
+        due(x.count(2), 3);
         due(x.count(3), 5);
         due(x.termOf(1), 3);
         due(x.book(0, 0), Long.MAX_VALUE - 25);
         due(x.loose(2), 10);
         due(x.book(0, 0), Long.MAX_VALUE - 5);
-        due(x.count(2), 4);
+        due(x.count(2), 5);
         x = new LeaderTerms();
         for (int i = 0; i < 499; i++) {
             x.loose(20);
