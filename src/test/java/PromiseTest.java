@@ -579,6 +579,15 @@ public final class PromiseTest {
             sheet(x, 1, 2, close[i]);
             due(x.weigh(1, 0), answers[i]);
         }
+        // NET is 66/7: close fractions with the same whole part, told apart by what is left of them.
+        x.budget(0, 0, 1);
+        x.term(4, 7);
+        long[][] near = {{7, 66}, {2, 19}, {3, 29}, {9, 85}, {16, 151}, {14, 132}, {1000000, 9428572}, {5, 47}};
+        int[] told66 = {0, 2, 2, 2, 2, 0, 2, 10};
+        for (int i = 0; i < near.length; i++) {
+            sheet(x, 1, 2, near[i]);
+            due(x.weigh(1, 0), told66[i]);
+        }
         // Products beyond the longs must not mislead.
         x.term(39999999, 2000000);
         sheet(x, 1, 2, 1000000, 1000000000);
