@@ -2,6 +2,7 @@
 public final class LeaderTerms {
     private static final int LOW = -1000001;
     private static final long LONG_LOW = -1000000000000000001L;
+    private static final long LEAST_LONG = 1L << 63;
 
     private static final int BEYOND = 0;
     private static final int FULL = 1;
@@ -528,7 +529,7 @@ public final class LeaderTerms {
         long was = world.ledger;
         boolean isOver = what == 0 ? isSumOver(was, v)
             : what == 1 ? isProductOver(was, v)
-            : was == Long.MIN_VALUE && v == -1;
+            : was == LEAST_LONG && v == -1;
         if (isOver) {
             return tellLong(OVER);
         }
@@ -912,7 +913,7 @@ public final class LeaderTerms {
             return false;
         }
         // Here alone the quotient wraps around with the product, and would hide it.
-        if (a == Long.MIN_VALUE && b == -1) {
+        if (a == LEAST_LONG && b == -1) {
             return true;
         }
         return a * b / b != a;

@@ -25,21 +25,25 @@ public final class AgainstModelTest {
         1000000, 2000000, 2000001, 1000000000, Integer.MAX_VALUE, 1L << 32, 1L << 40, Long.MAX_VALUE};
 
     private final Random random;
+    private final int rare;
     private final LeaderTerms subject = new LeaderTerms();
     private final Model model = new Model();
     private final List<String> told = new ArrayList<>();
 
-    private AgainstModelTest(long seed) {
+    /** Of the arguments, one in so many is a wild number, and as many are just beyond what is meant. */
+    private AgainstModelTest(long seed, int rare) {
         random = new Random(seed);
+        this.rare = rare;
     }
 
     public static void main(String[] args) {
         long from = args.length > 0 ? Long.parseLong(args[0]) : 1;
-        long runs = args.length > 1 ? Long.parseLong(args[1]) : 120;
+        long runs = args.length > 1 ? Long.parseLong(args[1]) : 140;
         int wrong = 0;
         Map<String, Integer> plain = new HashMap<>();
         for (long seed = from; seed < from + runs && wrong < 5; seed++) {
-            wrong += new AgainstModelTest(seed).run(seed, plain) ? 0 : 1;
+            // Each third run is drawn to the edges.
+            wrong += new AgainstModelTest(seed, seed % 3 == 0 ? 9 : 60).run(seed, plain) ? 0 : 1;
         }
         for (String c : CALLS) {
             String name = c.split(" ")[0];
@@ -232,7 +236,7 @@ public final class AgainstModelTest {
     }
 
     private long draw(long least, long most) {
-        int sort = random.nextInt(60);
+        int sort = random.nextInt(rare);
         if (sort == 0) {
             return WILD[random.nextInt(WILD.length)];
         }

@@ -162,6 +162,8 @@ public final class AnswersEdgeTest {
         Run x = new Run("follower 0 1", "budget 0 0 0").dues("isOpen 0", 0, 1, 0, 1);
         x.make("term 10 1").dues("isOpen 0", 1, 1, 1, 1).make("term 15 1").dues("isOpen 0", 0, 0, 1, 1);
         new Run("follower 0 1").dues("isOpen 0", 0, 1, 0, 0).make("term 10 1").dues("isOpen 0", 1, 1, 1, 0);
+        // It takes 5, which leaves room in the budget: row 1 alone is in.
+        new Run("follower 0 1", "bind 0 196 5").dues("isOpen 0", 0, 0, 1, 0, 0, 0, 0, 0);
         Edges.says("BEYOND: also a set with others.");
         new Run().refused("isOpen 0 0", BEYOND);
         new Run("follower 0 1").range("isOpen 0 ?", 0, 3, BEYOND);
@@ -179,6 +181,13 @@ public final class AnswersEdgeTest {
         // A bound of 0 costs nothing.
         new Run("follower 0 1", "bind 0 196 0").dues("price 0 0", 0, 1).dues("price 0 1", 10, 1);
         new Run("follower 0 1", "budget 0 0 0", "bind 0 196 1").dues("price 0 0", 10, 1).dues("price 0 1", 0, 1);
+        // A row that is gone costs nothing, and proves nothing.
+        new Run("follower 0 1", "bind 0 196 1", "bind 0 196 20", "loosen 0 1").dues("price 0 0", 10, 1).dues("price 0 1", 0, 1).make("loosen 0 1").dues("price 0 0", 10, 1);
+        // Followers with unlike goods and rows, asked by turns.
+        x = Scenes.unlike().make("term 0 1");
+        for (int again = 0; again < 2; again++) {
+            x.dues("price 0 0", 0, 1).dues("price 0 1", 10, 1).make("price 1 0 0").dues("price 2 0", 0, 1).dues("price 2 1", 2, 1).dues("price 2 2", 7, 1);
+        }
         Edges.says("BEYOND.");
         new Run().refused("price 0 0 0", BEYOND);
         x = Scenes.rich().range("price ? 0 0", 0, 1, BEYOND).range("price 0 ? 0", 0, 3, BEYOND).range("price 1 ? 1", 0, 1, BEYOND);

@@ -176,6 +176,7 @@ public final class RoundsEdgeTest {
         Scenes.sheet(new Run(thirds), 3, 0, -6, -3, 0).dues("fits 3 0", 127, 7);
         Scenes.sheet(new Run(thirds), 3, 0, -7, -3, 0).dues("fits 3 0", 0, 0);
         Scenes.sheet(new Run(thirds), 3, 0, -6, -4, 0).dues("fits 3 0", 0, 0);
+        Scenes.full().asks("fits 0 0 0").asks("fits 1 1 1").asks("fits 2 2 0");
         Edges.says("BEYOND.");
         x = Scenes.rich().make("sheet 3 2 0");
         x.range("fits ? 0 0", 0, 3, BEYOND).range("fits 0 ? 0", 0, 1, BEYOND).range("fits 0 0 ?", 0, 1, BEYOND);
@@ -194,6 +195,9 @@ public final class RoundsEdgeTest {
         // Fewer, more, and those that were altered anew.
         x.make("most 1").due("prove", 1).due("count 4", 1).dues("row 0", 10, 3, -10, 3, 0, 1).refused("row 1 0", BEYOND);
         x.make("alter 0 0 9", "most 20").due("prove", 2).dues("row 0", 10, 3, -10, 3, 30, 1).dues("row 1", 0, 1, 0, 1, 0, 1);
+        // As many as three followers can bring about.
+        Scenes.manyBreaks().due("prove", 23).due("count 4", 23).due("judge", 0).dues("row 22", 0, 1, 0, 1, 0, 1).range("row ? 5", 0, 22, BEYOND)
+            .due("alter 22 5 9", 1).due("judge", 23).range("alter ? 5 1", 0, 22, BEYOND);
         // They stay as they are told while followers change.
         x.make("become 0 30").dues("row 0", 10, 3, -10, 3, 30, 1).due("count 4", 2);
     }

@@ -107,6 +107,18 @@ final class Run {
         return this;
     }
 
+    /** On an object like this one, the call answers no finding, and changes nothing at all. */
+    Run asks(String call) {
+        Run with = again().make(call);
+        Run without = again();
+        // As many calls as the other one has made, so that both are read as far.
+        without.ask("count 0");
+        List<Long> after = with.read(-1);
+        List<Long> before = without.read(-1);
+        Edges.check(after.equals(before), call + " changed what is read from " + before + " to " + after, with.calls);
+        return this;
+    }
+
     /** The argument "?" may be least and greatest, and nothing just outside, or far outside. */
     Run range(String pattern, long least, long greatest, int finding) {
         return from(pattern, least, finding).upTo(pattern, greatest, finding);
@@ -178,7 +190,7 @@ final class Run {
         return (isLong ? LONG_LOW : INT_LOW) - finding;
     }
 
-    private static boolean isFinding(String call, long got) {
+    static boolean isFinding(String call, long got) {
         long k = findingOf(call, 0) - got;
         return k >= 0 && k <= OVER;
     }

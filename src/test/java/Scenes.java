@@ -26,6 +26,24 @@ final class Scenes {
         return new Run("follower " + km + " 1");
     }
 
+    /** Followers with one, two and three goods, of which some rows are gone; all have several plans and prices. */
+    static Run unlike() {
+        return new Run("follower 0 1", "bind 0 220 7", "bind 0 196 7", "loosen 0 1", "follower 30 3", "good 1 0 0 20", "good 1 0 1 3", "good 1 2 2 -4",
+            "bind 1 235 18", "bind 1 283 16", "bind 1 305 9", "loosen 1 2", "follower 41 2", "good 2 1 0 15", "bind 2 220 5", "bind 2 234 15",
+            "bind 2 178 5", "sheet 0 1 5", "write 0 0 1", "write 0 1 9", "write 0 3 4", "sheet 1 2 2", "write 1 1 -999", "prove", "term 1 2");
+    }
+
+    /** Three followers with eight breaks each, 22 of them unlike, the most that drawn ones had. */
+    static Run manyBreaks() {
+        Run x = new Run("most 40");
+        int[] kinds = {0, 41, 61};
+        for (int f = 0; f < 3; f++) {
+            x.make("follower " + kinds[f] + " 3", "good " + f + " 0 0 7", "good " + f + " 1 0 12", "good " + f + " 1 1 2", "good " + f + " 2 0 14",
+                "good " + f + " 2 1 3", "budget " + f + " 0 14", "bind " + f + " 235 18", "bind " + f + " 283 16", "bind " + f + " 305 9");
+        }
+        return x;
+    }
+
     /** The sheet becomes these numbers. */
     static Run sheet(Run x, int s, int sort, long... numbers) {
         x.due("sheet " + s + " " + sort + " " + numbers.length, numbers.length);
