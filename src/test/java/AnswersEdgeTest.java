@@ -183,6 +183,12 @@ public final class AnswersEdgeTest {
         new Run("follower 0 1", "budget 0 0 0", "bind 0 196 1").dues("price 0 0", 10, 1).dues("price 0 1", 0, 1);
         // A row that is gone costs nothing, and proves nothing.
         new Run("follower 0 1", "bind 0 196 1", "bind 0 196 20", "loosen 0 1").dues("price 0 0", 10, 1).dues("price 0 1", 0, 1).make("loosen 0 1").dues("price 0 0", 10, 1);
+        // Nor does the bound of a row that was behind all others: 10 y0 and 10 y1 for y0 and y1 of 20 are alike.
+        new Run("follower 0 2", "good 0 0 0 0", "good 0 1 0 20", "bind 0 178 10", "bind 0 227 10", "loosen 0 2").due("opens 0 2", 2)
+            .dues("price 0 0", 0, 1).dues("price 0 1", 20, 1);
+        // As many rows prove as there are goods.
+        new Run("follower 0 3", "budget 0 0 20", "bind 0 220 1", "bind 0 178 2", "bind 0 172 3").dues("price 0 0", 0, 1).dues("price 0 1", 10, 1)
+            .dues("price 0 2", 10, 1).dues("price 0 3", 10, 1).due("opens 0 2", 1);
         // Followers with unlike goods and rows, asked by turns.
         x = Scenes.unlike().make("term 0 1");
         for (int again = 0; again < 2; again++) {

@@ -171,6 +171,8 @@ public final class BestEdgeTest {
         new Run("follower 0 1", "bind 0 196 3", "budget 0 0 0").due("without 0", -1);
         // Without it the leader has less.
         new Run("follower 0 1", "good 0 0 2 -9", "most 1", "bind 0 196 3").due("without 0", -1);
+        // Nor is it asked what would be without THE BUDGET, or without a ROW behind the last one.
+        new Run("follower 0 1", "good 0 0 2 -9", "most 1").due("without 0", -1).due("best 0", -80);
         Edges.says("BEYOND.");
         new Run().refused("without 0", BEYOND).refused("without -1", BEYOND);
         Scenes.rich().range("without ?", 0, 1, BEYOND);

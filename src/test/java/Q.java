@@ -7,12 +7,31 @@ final class Q implements Comparable<Q> {
     final BigInteger below;
 
     private Q(BigInteger a, BigInteger b) {
-        BigInteger g = a.gcd(b);
-        if (b.signum() < 0) {
-            g = g.negate();
+        if (b.equals(BigInteger.ONE)) {
+            above = a;
+            below = b;
+        } else if (a.bitLength() < 63 && b.bitLength() < 63) {
+            // Most numbers are small; finding their divisor as longs makes drawn runs far faster.
+            long g = divisor(a.longValue(), b.longValue());
+            above = BigInteger.valueOf(a.longValue() / g);
+            below = BigInteger.valueOf(b.longValue() / g);
+        } else {
+            BigInteger g = b.signum() < 0 ? a.gcd(b).negate() : a.gcd(b);
+            above = a.divide(g);
+            below = b.divide(g);
         }
-        above = a.divide(g);
-        below = b.divide(g);
+    }
+
+    /** The greatest common divisor, with the sign of b. */
+    private static long divisor(long a, long b) {
+        long x = Math.abs(a);
+        long y = Math.abs(b);
+        while (y != 0) {
+            long rest = x % y;
+            x = y;
+            y = rest;
+        }
+        return b < 0 ? -x : x;
     }
 
     static Q of(long n) {
@@ -28,7 +47,7 @@ final class Q implements Comparable<Q> {
     }
 
     Q minus(Q o) {
-        return plus(o.times(-1));
+        return new Q(above.multiply(o.below).subtract(o.above.multiply(below)), below.multiply(o.below));
     }
 
     Q times(Q o) {
